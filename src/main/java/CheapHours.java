@@ -22,7 +22,7 @@ public final class CheapHours {
     public CheapHours() {
         prices = new Prices();
         jobs = new Job[MOST_JOBS];
-        plan = new Plan();
+        plan = new Plan(prices);
         hindsight = new Hindsight(prices);
     }
 
@@ -42,7 +42,7 @@ public final class CheapHours {
             return false;
         }
         prices.atFull = price;
-        plan.setFull(price);
+        plan.forget();
         return true;
     }
 
@@ -505,8 +505,8 @@ public final class CheapHours {
         private static final int STATES = (MOST_HOURS + 1) * (MOST_HOURS + 1) * MOST_LEVELS;
 
         int size;
-        private int full;
         private boolean known;
+        private final Prices prices;
         private final int[] asked;
         private final int[] chance;
         private final long[] mean;
@@ -514,8 +514,8 @@ public final class CheapHours {
         private final int[] greatest;
         private final long[] meanByCap;
 
-        Plan() {
-            full = 100;
+        Plan(Prices prices) {
+            this.prices = prices;
             asked = new int[MOST_LEVELS];
             chance = new int[MOST_LEVELS * MOST_LEVELS];
             mean = new long[STATES];
@@ -524,8 +524,8 @@ public final class CheapHours {
             meanByCap = new long[STATES];
         }
 
-        void setFull(int price) {
-            full = price;
+        /** FULL may change while no job has come: what the table says then holds no more. */
+        void forget() {
             known = false;
         }
 
@@ -627,7 +627,7 @@ public final class CheapHours {
             }
             long parts = Losses.power(10, h);
             long behind = meanBehind(mean, h - 1, w - 1, one);
-            long best = full * parts + behind;
+            long best = prices.atFull * parts + behind;
             int by = AT_FULL;
             long atPrice = askedAt(one) * parts + behind;
             if (atPrice <= best) {
@@ -653,7 +653,7 @@ public final class CheapHours {
             } else if (choice[state] == WAIT) {
                 greatest[state] = greatestBehind(h - 1, w, one);
             } else {
-                int pays = choice[state] == AT_PRICE ? askedAt(one) : full;
+                int pays = choice[state] == AT_PRICE ? askedAt(one) : prices.atFull;
                 greatest[state] = pays + greatestBehind(h - 1, w - 1, one);
             }
         }
@@ -669,7 +669,7 @@ public final class CheapHours {
             } else if (price > cap && w < h) {
                 meanByCap[state] = meanBehind(meanByCap, h - 1, w, one);
             } else {
-                int pays = price > cap ? Math.min(price, full) : price;
+                int pays = price > cap ? Math.min(price, prices.atFull) : price;
                 meanByCap[state] = pays * Losses.power(10, h)
                         + meanBehind(meanByCap, h - 1, w - 1, one);
             }

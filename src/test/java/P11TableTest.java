@@ -10,6 +10,7 @@ public final class P11TableTest {
     public static void main(String[] args) {
         Check check = new Check("promises 11 to 14");
         byHand(check);
+        looksAtTheFirstFull(check);
         choosesTheFirst(check);
         leavesOutWhatDoesntCome(check);
         capsByWords(check);
@@ -39,6 +40,17 @@ public final class P11TableTest {
         check.due("worst(12, 0, 1)", x.worst(12, 0, 1), 0);
         check.due("capped(12, 0, 1, 5)", x.capped(12, 0, 1, 5), 0);
         check.due("table(0, 0, 1)", x.table(0, 0, 1), 0);
+    }
+
+    private static void looksAtTheFirstFull(Check check) {
+        CheapHours x = new CheapHours();
+        x.levels(1);
+        x.level(0, 999, 0);
+        check.due("table at 100", x.table(1, 1, 0), 1000);
+        check.due("rule at 100", x.rule(1, 1, 0), 2);
+        check.due("worst at 100", x.worst(3, 3, 0), 300);
+        check.due("capped at 100", x.capped(1, 1, 0, 998), 1000);
+        check.due("capped at the PRICE", x.capped(1, 1, 0, 999), 9990);
     }
 
     private static void choosesTheFirst(Check check) {

@@ -7,8 +7,10 @@ public final class P15OracleTest {
         bringsBackOrBeginsAnew(check);
         looksAtPricesAsTheyAre(check);
         beginsAsItCame(check);
+        takesTheGreatest(check);
         refuses(check);
-        againstModel(check);
+        againstModel(check, new Dice(15), 400, 24, 9);
+        againstModel(check, new Dice(16), 6, 60, 20);
         check.end();
     }
 
@@ -85,6 +87,23 @@ public final class P15OracleTest {
         check.due("as it came", x.oracle(0), 16);
     }
 
+    private static void takesTheGreatest(Check check) {
+        CheapHours x = new CheapHours();
+        x.price(2, 100, 130, 1);
+        x.price(2, 170, 199, 2);
+        x.job(30200055, 0, 1);
+        check.due("30 hours in a row", x.oracle(0), 30);
+        x.job(30200000, 0, 1);
+        check.due("30 hours, all saved", x.oracle(1), 30);
+        x.job(30129055, 0, 1);
+        // six hours and a save of five at FULL, then five of bringing back and 24 of work at 1
+        check.due("one hour short", x.oracle(2), 1129);
+        CheapHours dear = new CheapHours();
+        dear.full(999);
+        dear.job(30200255, 999, 60);
+        check.due("at the greatest FULL", dear.oracle(0), 29970);
+    }
+
     private static void refuses(Check check) {
         CheapHours x = new CheapHours();
         check.none("no job", x.oracle(0));
@@ -96,19 +115,18 @@ public final class P15OracleTest {
         check.none("least", x.oracle(Integer.MIN_VALUE));
     }
 
-    private static void againstModel(Check check) {
-        Dice dice = new Dice(15);
-        for (int run = 0; run < 400; run++) {
+    private static void againstModel(Check check, Dice dice, int runs, int most, int mostWork) {
+        for (int run = 0; run < runs; run++) {
             CheapHours x = new CheapHours();
             int full = dice.roll(1, 20);
             x.full(full);
-            int hours = dice.roll(4, 24);
+            int hours = dice.roll(4, most);
             int[][] prices = Markets.throwPrices(dice, x, hours);
             int came = dice.roll(0, 2);
             x.go(came);
             for (int job = 0; job < 4; job++) {
                 int due = dice.roll(came + 1, hours);
-                int work = dice.roll(1, Math.min(9, due - came));
+                int work = dice.roll(1, Math.min(mostWork, due - came));
                 int what = work * 1000000 + due * 1000 + dice.roll(0, 5) * 10 + dice.roll(0, 5);
                 x.job(what, 0, 1);
                 check.due("run " + run + ", job " + what, x.oracle(job),
