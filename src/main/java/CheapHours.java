@@ -714,8 +714,8 @@ public final class CheapHours {
         }
 
         private static int stateOf(int h, int w, int one) {
-            boolean there = within(h, 0, MOST_HOURS) && within(w, 0, MOST_HOURS)
-                    && within(one, 0, MOST_LEVELS - 1);
+            boolean there = h >= 0 && h <= MOST_HOURS && w >= 0 && w <= MOST_HOURS
+                    && one >= 0 && one < MOST_LEVELS;
             return there ? (h * (MOST_HOURS + 1) + w) * MOST_LEVELS + one : NONE;
         }
     }
@@ -817,8 +817,8 @@ public final class CheapHours {
         }
 
         private static int slotOf(int hour, int place, int done) {
-            boolean there = within(hour, 0, HOURS - 1) && within(place, 0, PLACES - 1)
-                    && within(done, 0, Terms.MOST_WORK - 1);
+            boolean there = hour >= 0 && hour < HOURS && place >= 0 && place < PLACES
+                    && done >= 0 && done < Terms.MOST_WORK;
             return there ? (hour % KEPT_HOURS * PLACES + place) * Terms.MOST_WORK + done : NONE;
         }
     }

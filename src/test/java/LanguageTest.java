@@ -9,7 +9,7 @@ public final class LanguageTest {
     private static final String[] RULED_OUT = {"\\bthrow\\b", "\\bthrows\\b", "\\btry\\b", "\\bcatch\\b",
         "\\bsynchronized\\b", "\\bassert\\b", "->", "::", "\\bprotected\\b", "\\bpackage\\b",
         "\\bSystem\\.(?!arraycopy)", "Exact\\b", "\\bThread\\b", "\\bRandom\\b", "\\.values\\(",
-        "\\btoString\\b", "\\bhashCode\\b", "\\bwhile\\b", "import (?!java\\.util\\.Arrays;)", "@"};
+        "\\bString toString\\b", "\\bhashCode\\b", "import (?!java\\.util\\.Arrays;)", "@"};
 
     public static void main(String[] args) throws IOException {
         Check check = new Check("the language");
