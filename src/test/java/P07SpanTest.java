@@ -6,14 +6,16 @@ public final class P07SpanTest {
         Check check = new Check("promises 7 and 8");
         byHand(check);
         againstFractions(check);
-        refuses(check);
+        spanKnowsItsArguments(check);
+        meanKnowsItsArguments(check);
+        meanKnowsItsSpan(check);
+        meanKnowsItsWhat(check);
         check.end();
     }
 
     private static void byHand(Check check) {
+        check.about("promise 8: The mean HOURS with a SPAN, in lowest terms");
         CheapHours x = new CheapHours();
-        check.due("span(10, 2, 10)", x.span(10, 2, 10), 5);
-        check.due("span(10, 1, 10)", x.span(10, 1, 10), 4);
         // 4 = 2 * (2^1 - 1) * 2, and one try of two hours takes 6
         check.due("mean(2, 0, 2, 1, 0)", x.mean(2, 0, 2, 1, 0), 4);
         check.due("mean(2, 0, 2, 2, 0)", x.mean(2, 0, 2, 2, 0), 6);
@@ -26,11 +28,11 @@ public final class P07SpanTest {
     }
 
     private static void againstFractions(Check check) {
-        CheapHours x = new CheapHours();
+        check.about("promises 7 and 8: BEST SPAN, and the mean, for all that can be");
         for (int work = 1; work <= 10; work++) {
             for (int save = 0; save <= 2; save++) {
                 for (int q = 2; q <= 10; q++) {
-                    spans(check, x, work, save, q);
+                    spans(check, new CheapHours(), work, save, q);
                 }
             }
         }
@@ -75,18 +77,37 @@ public final class P07SpanTest {
         return new BigInteger[] {above.divide(common), below.divide(common)};
     }
 
-    private static void refuses(Check check) {
-        CheapHours x = new CheapHours();
-        int[][] wrong = {{0, 1, 5}, {11, 1, 5}, {-1, 1, 5}, {5, -1, 5}, {5, 3, 5}, {5, 1, 1},
-            {5, 1, 11}, {5, 1, 0}, {5, 1, -7}, {Integer.MAX_VALUE, 1, 5}, {5, 1, Integer.MIN_VALUE}};
-        for (int[] w : wrong) {
-            check.none("span", x.span(w[0], w[1], w[2]));
-            check.none("mean above", x.mean(w[0], w[1], w[2], 1, 0));
-            check.none("mean below", x.mean(w[0], w[1], w[2], 1, 1));
+    private static void spanKnowsItsArguments(Check check) {
+        check.about("promise 7: NONE if WORK can't be");
+        Edges.argument(check, CheapHours::new, (x, work) -> x.span(work, 1, 5), 1, 10);
+        check.about("promise 7: NONE if SAVE can't be");
+        Edges.argument(check, CheapHours::new, (x, save) -> x.span(5, save, 5), 0, 2);
+        check.about("promise 7: NONE if q can't be");
+        Edges.argument(check, CheapHours::new, (x, q) -> x.span(5, 1, q), 2, 10);
+    }
+
+    private static void meanKnowsItsArguments(Check check) {
+        for (int what = 0; what <= 1; what++) {
+            int line = what;
+            check.about("promise 8, what " + what + ": NONE likewise (WORK)");
+            Edges.argument(check, CheapHours::new, (x, work) -> x.mean(work, 1, 5, 1, line), 1, 10);
+            check.about("promise 8, what " + what + ": NONE likewise (SAVE)");
+            Edges.argument(check, CheapHours::new, (x, save) -> x.mean(5, save, 5, 1, line), 0, 2);
+            check.about("promise 8, what " + what + ": NONE likewise (q)");
+            Edges.argument(check, CheapHours::new, (x, q) -> x.mean(5, 1, q, 1, line), 2, 10);
         }
-        check.none("SPAN 0", x.mean(5, 1, 5, 0, 0));
-        check.none("SPAN above WORK", x.mean(5, 1, 5, 6, 0));
-        check.none("what -1", x.mean(5, 1, 5, 5, -1));
-        check.none("what 2", x.mean(5, 1, 5, 5, 2));
+    }
+
+    private static void meanKnowsItsSpan(Check check) {
+        for (int work : new int[] {1, 2, 9, 10}) {
+            check.about("promise 8, WORK " + work + ": NONE for another SPAN");
+            Edges.argument(check, CheapHours::new, (x, span) -> x.mean(work, 1, 5, span, 0), 1, work);
+            Edges.argument(check, CheapHours::new, (x, span) -> x.mean(work, 1, 5, span, 1), 1, work);
+        }
+    }
+
+    private static void meanKnowsItsWhat(Check check) {
+        check.about("promise 8: NONE for another what");
+        Edges.argument(check, CheapHours::new, (x, what) -> x.mean(5, 1, 5, 5, what), 0, 1);
     }
 }

@@ -14,13 +14,16 @@ public final class P11TableTest {
         choosesTheFirst(check);
         leavesOutWhatDoesntCome(check);
         capsByWords(check);
-        refuses(check);
+        knowsItsStates(check);
+        knowsItsCaps(check);
+        keepsNothingOfTheLastCall(check);
         againstModel(check);
         staysExact(check);
         check.end();
     }
 
     private static void byHand(Check check) {
+        check.about("promises 11 to 13: MEAN, RULE, GREATEST");
         CheapHours x = new CheapHours();
         x.levels(2);
         x.level(0, 20, 55);
@@ -43,6 +46,7 @@ public final class P11TableTest {
     }
 
     private static void looksAtTheFirstFull(Check check) {
+        check.about("promises 11 to 14: FULL is 100 at first");
         CheapHours x = new CheapHours();
         x.levels(1);
         x.level(0, 999, 0);
@@ -54,6 +58,7 @@ public final class P11TableTest {
     }
 
     private static void choosesTheFirst(Check check) {
+        check.about("promise 12: the first of like ones");
         CheapHours x = new CheapHours();
         x.full(40);
         x.levels(1);
@@ -68,6 +73,7 @@ public final class P11TableTest {
     }
 
     private static void leavesOutWhatDoesntCome(Check check) {
+        check.about("promise 13: LEVELS with a chance of 0 come not");
         CheapHours x = new CheapHours();
         x.full(999);
         x.levels(3);
@@ -80,6 +86,7 @@ public final class P11TableTest {
     }
 
     private static void capsByWords(Check check) {
+        check.about("promise 14: The mean CAPPED by c");
         CheapHours x = new CheapHours();
         x.full(50);
         x.levels(2);
@@ -95,23 +102,82 @@ public final class P11TableTest {
         check.due("c of 999", x.capped(2, 1, 0, 999), 8000);
     }
 
-    private static void refuses(Check check) {
+    /** The four calls of a state, by promise. */
+    private static long ask(CheapHours x, int promise, int hours, int work, int one) {
+        switch (promise) {
+            case 11:
+                return x.table(hours, work, one);
+            case 12:
+                return x.rule(hours, work, one);
+            case 13:
+                return x.worst(hours, work, one);
+            default:
+                return x.capped(hours, work, one, 15);
+        }
+    }
+
+    private static void knowsItsStates(Check check) {
+        for (int promise = 11; promise <= 14; promise++) {
+            int asked = promise;
+            check.about("promise " + promise + ": NONE if there is none such (hours)");
+            Edges.argument(check, Desks::laidOut, (x, hours) -> ask(x, asked, hours, 0, 1), 0, 12);
+            Edges.argument(check, Desks::laidOut, (x, hours) -> ask(x, asked, hours, 5, 1), 5, 12);
+            Edges.argument(check, Desks::laidOut, (x, hours) -> ask(x, asked, hours, 12, 1), 12, 12);
+            check.about("promise " + promise + ": NONE if there is none such (work)");
+            for (int hours : new int[] {0, 1, 5, 11, 12}) {
+                Edges.argument(check, Desks::laidOut, (x, work) -> ask(x, asked, hours, work, 1), 0, hours);
+            }
+            check.about("promise " + promise + ": NONE if there is none such (level)");
+            Edges.argument(check, Desks::laidOut, (x, one) -> ask(x, asked, 5, 3, one), 0, 2);
+            Edges.argument(check, Desks::laidOut, (x, one) -> ask(x, asked, 0, 0, one), 0, 2);
+            knowsItsLevels(check, asked);
+        }
+    }
+
+    private static void knowsItsLevels(Check check, int asked) {
+        check.about("promise " + asked + ": NONE if there is none such (no LEVELS, or fewer than before)");
+        for (int one = 0; one < 6; one++) {
+            int level = one;
+            Edges.refusedOn(check, "no LEVELS", CheapHours::new, x -> ask(x, asked, 5, 3, level));
+        }
+        for (int n = 1; n <= 6; n++) {
+            CheapHours x = new CheapHours();
+            x.levels(6);
+            ask(x, asked, 5, 3, 5);
+            x.levels(n);
+            check.yes("the last of " + n, ask(x, asked, 5, 3, n - 1) != -1);
+            check.none("one behind it", ask(x, asked, 5, 3, n));
+        }
+    }
+
+    private static void knowsItsCaps(Check check) {
+        check.about("promise 14: NONE for another c");
+        Edges.argument(check, Desks::laidOut, (x, c) -> x.capped(5, 3, 1, c), 0, 999);
+        Edges.argument(check, Desks::laidOut, (x, c) -> x.capped(0, 0, 1, c), 0, 999);
+    }
+
+    /** What was asked before, and in which order, is all the same. */
+    private static void keepsNothingOfTheLastCall(Check check) {
+        check.about("promises 11 to 14: as LEVELS are when it is asked");
         CheapHours x = new CheapHours();
         x.levels(2);
-        int[][] wrong = {{13, 1, 0}, {-1, 0, 0}, {5, 6, 0}, {5, -1, 0}, {5, 1, 2}, {5, 1, -1},
-            {12, 13, 0}, {13, 13, 0}, {Integer.MAX_VALUE, 1, 0}, {5, Integer.MIN_VALUE, 0},
-            {5, 1, Integer.MAX_VALUE}};
-        for (int[] w : wrong) {
-            check.none("table", x.table(w[0], w[1], w[2]));
-            check.none("rule", x.rule(w[0], w[1], w[2]));
-            check.none("worst", x.worst(w[0], w[1], w[2]));
-            check.none("capped", x.capped(w[0], w[1], w[2], 5));
-        }
-        check.none("c of -1", x.capped(5, 1, 0, -1));
-        check.none("c of 1000", x.capped(5, 1, 0, 1000));
+        x.level(1, 30, 10);
+        check.due("capped by 30", x.capped(2, 1, 1, 30), 3000);
+        check.due("capped by 29", x.capped(2, 1, 1, 29), 300);
+        check.due("capped by 30 again", x.capped(2, 1, 1, 30), 3000);
+        check.due("table", x.table(2, 2, 1), 3300);
+        x.level(0, 5, 0);
+        check.due("table of the new prices", x.table(2, 2, 1), 3750);
+        check.due("capped of the new prices", x.capped(2, 2, 1, 30), 3750);
+        check.due("worst of the new prices", x.worst(2, 1, 1), 30);
+        x.level(1, 3, 0);
+        check.due("rule of the new prices", x.rule(2, 1, 1), 1);
+        x.levels(1);
+        check.due("of new LEVELS", x.table(2, 2, 0), 0);
     }
 
     private static void againstModel(Check check) {
+        check.about("promises 11 to 14: as a second way to the same answers says");
         Dice dice = new Dice(11);
         for (int run = 0; run < 60; run++) {
             CheapHours x = new CheapHours();
@@ -210,6 +276,7 @@ public final class P11TableTest {
     }
 
     private static void staysExact(Check check) {
+        check.about("promises 11, 13 and 14: the greatest there can be");
         CheapHours x = new CheapHours();
         x.full(999);
         x.levels(6);

@@ -8,13 +8,15 @@ public final class P15OracleTest {
         looksAtPricesAsTheyAre(check);
         beginsAsItCame(check);
         takesTheGreatest(check);
-        refuses(check);
+        tellsOfAnyJob(check);
+        knowsItsJobs(check);
         againstModel(check, new Dice(15), 400, 24, 9);
         againstModel(check, new Dice(16), 6, 60, 20);
         check.end();
     }
 
     private static void needsNoSaveAtTheEnd(Check check) {
+        check.about("What the ORACLE tells: no save at the end");
         CheapHours x = new CheapHours();
         x.price(1, 4, 6, 3);
         x.price(1, 7, 199, 50);
@@ -30,6 +32,7 @@ public final class P15OracleTest {
 
     /** Four cheap hours, then none: a save must fit in, and bringing back is paid, too. */
     private static void savesToLeave(Check check) {
+        check.about("What the ORACLE tells: saves");
         CheapHours x = new CheapHours();
         x.price(0, 0, 3, 1);
         x.price(0, 10, 13, 2);
@@ -49,6 +52,7 @@ public final class P15OracleTest {
     }
 
     private static void bringsBackOrBeginsAnew(Check check) {
+        check.about("What the ORACLE tells: bringing back");
         CheapHours x = new CheapHours();
         x.full(50);
         x.price(0, 0, 1, 0);
@@ -62,6 +66,7 @@ public final class P15OracleTest {
     }
 
     private static void looksAtPricesAsTheyAre(Check check) {
+        check.about("with PRICES as they are NOW");
         CheapHours x = new CheapHours();
         x.job(2010000, 0, 1);
         check.due("nothing is let", x.oracle(0), 200);
@@ -76,7 +81,22 @@ public final class P15OracleTest {
         check.due("prices behind DUE", x.oracle(0), 9);
     }
 
+    private static void tellsOfAnyJob(Check check) {
+        check.about("What the ORACLE tells of a JOB, whatever has become of it");
+        CheapHours x = Desks.busy();
+        check.due("READY: two at 3", x.oracle(0), 6);
+        check.due("at its market: twelve at 3", x.oracle(1), 36);
+        check.due("at FULL: ten at 3", x.oracle(2), 30);
+        check.due("it waits: five at 3", x.oracle(3), 15);
+        x.go(200);
+        check.due("READY", x.oracle(0), 6);
+        check.due("READY", x.oracle(1), 36);
+        check.due("READY", x.oracle(2), 30);
+        check.due("READY", x.oracle(3), 15);
+    }
+
     private static void beginsAsItCame(Check check) {
+        check.about("of a JOB, as it came");
         CheapHours x = new CheapHours();
         x.price(0, 0, 4, 1);
         x.price(0, 5, 199, 7);
@@ -88,6 +108,7 @@ public final class P15OracleTest {
     }
 
     private static void takesTheGreatest(Check check) {
+        check.about("What the ORACLE tells: the greatest there can be");
         CheapHours x = new CheapHours();
         x.price(2, 100, 130, 1);
         x.price(2, 170, 199, 2);
@@ -104,18 +125,22 @@ public final class P15OracleTest {
         check.due("at the greatest FULL", dear.oracle(0), 29970);
     }
 
-    private static void refuses(Check check) {
+    private static void knowsItsJobs(Check check) {
+        check.about("NONE if there is none such");
+        Edges.argument(check, Desks::crowded, (x, job) -> x.oracle(job), 0, 11);
+        for (int job = 0; job < 12; job++) {
+            int one = job;
+            Edges.refusedOn(check, "no job came", CheapHours::new, x -> x.oracle(one));
+        }
+        Edges.refusedOn(check, "four came", Desks::busy, x -> x.oracle(4));
+        Edges.refusedOn(check, "twelve came", Desks::crowded, x -> x.oracle(12));
         CheapHours x = new CheapHours();
-        check.none("no job", x.oracle(0));
-        x.job(1010000, 0, 1);
-        check.none("oracle(1)", x.oracle(1));
-        check.none("oracle(-1)", x.oracle(-1));
-        check.none("oracle(12)", x.oracle(12));
-        check.none("greatest", x.oracle(Integer.MAX_VALUE));
-        check.none("least", x.oracle(Integer.MIN_VALUE));
+        check.none("a job that doesn't come", x.job(1000000, 0, 1));
+        check.none("oracle", x.oracle(0));
     }
 
     private static void againstModel(Check check, Dice dice, int runs, int most, int mostWork) {
+        check.about("as a second way to the same answers says");
         for (int run = 0; run < runs; run++) {
             CheapHours x = new CheapHours();
             int full = dice.roll(1, 20);
