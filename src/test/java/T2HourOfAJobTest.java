@@ -11,6 +11,7 @@ public final class T2HourOfAJobTest {
         bringsBackAtFullAboveBring(check);
         losesAllAtFullUpToBring(check);
         bringsNothingInNoHours(check);
+        bringsBackAnewAtFull(check);
         savesAtOnceAtFull(check);
         paysFullForEachHour(check);
         waitsAtNoneOrAboveBid(check);
@@ -137,6 +138,21 @@ public final class T2HourOfAJobTest {
         row(check, "it waits", x, 0, 4, 0, 0, 4, 0, 0, 2, 0, 0, 0, -1, 1, 1);
         x.go(1);
         row(check, "works at once", x, 0, 5, 0, 0, 5, 0, 0, 2, 100, 1, 0, 7, 0, 1);
+    }
+
+    /** What it brought back at its market is of no use at FULL. */
+    private static void bringsBackAnewAtFull(Check check) {
+        check.about("when it has just come there it first takes BRING HOURS, all of them");
+        CheapHours x = new CheapHours();
+        x.price(0, 0, 3, 1);
+        x.price(0, 5, 199, 1);
+        x.job(6012003, 1, 4);
+        x.go(7);
+        row(check, "two of three at its market", x, 0, 4, 0, 0, 4, 2, 0, 1, 6, 0, 1, -1, 5, 1);
+        x.go(3);
+        row(check, "three of three at FULL", x, 0, 4, 0, 0, 4, 5, 0, 1, 306, 3, 2, -1, 5, 1);
+        x.go(2);
+        row(check, "READY", x, 0, 6, 0, 0, 6, 5, 0, 1, 506, 5, 0, 12, 3, 1);
     }
 
     private static void savesAtOnceAtFull(Check check) {

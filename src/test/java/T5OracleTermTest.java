@@ -17,6 +17,7 @@ public final class T5OracleTermTest {
         savesAtFull(check);
         isReadyAsDueBegins(check);
         needsNoSaveAtTheEnd(check);
+        tellsTheLeastOfTheMost(check);
         check.end();
     }
 
@@ -215,5 +216,21 @@ public final class T5OracleTermTest {
         least(check, "SAVE 5", x, 3004050, 9);
         least(check, "SAVE 5, no HOUR behind it", x, 3003050, 9);
         least(check, "one more is at FULL, all of it", x, 4004050, 400);
+    }
+
+    /** The last of thirty hours of work is let alone, in any hour up to the last one. */
+    private static void tellsTheLeastOfTheMost(Check check) {
+        check.about("The least sum is told, of the greatest WORK and the latest DUE");
+        for (int hour = 30; hour < 200; hour++) {
+            CheapHours x = new CheapHours();
+            x.price(0, 0, 28, 1);
+            x.price(2, hour, hour, 2);
+            least(check, "SAVE 0, hour " + hour, x, 30200000, 31);
+            // 28 and a save at 1, then two at FULL: a save there would cost as much as to work
+            least(check, "SAVE 1, hour " + hour, x, 30200010, 229);
+        }
+        CheapHours dear = new CheapHours();
+        dear.full(999);
+        least(check, "thirty at the greatest FULL", dear, 30200055, 29970);
     }
 }
